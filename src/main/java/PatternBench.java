@@ -231,15 +231,12 @@ public final class PatternBench {
         }
 
         static int from(long captures, int group) {
-            return placeAt(captures, (group - 1) * GROUP_BITS);
+            int raised = (int) (captures >>> ((group - 1) * GROUP_BITS)) & PLACE_MASK;
+            return raised == 0 ? UNSET : raised - 1;
         }
 
         static int to(long captures, int group) {
-            return placeAt(captures, (group - 1) * GROUP_BITS + PLACE_BITS);
-        }
-
-        private static int placeAt(long captures, int shift) {
-            int raised = (int) (captures >>> shift) & PLACE_MASK;
+            int raised = (int) (captures >>> ((group - 1) * GROUP_BITS + PLACE_BITS)) & PLACE_MASK;
             return raised == 0 ? UNSET : raised - 1;
         }
     }
@@ -667,7 +664,9 @@ public final class PatternBench {
         }
 
         void cutTo(int open) {
-            used = Math.min(used, open);
+            if (open < used) {
+                used = open;
+            }
         }
     }
 
@@ -784,7 +783,7 @@ public final class PatternBench {
         private void enterRow(int row) {
             int other = program.nextRow[row];
             if (other != NO) {
-                leaveChoice(ROW, other);
+                choices.add(ROW, other, place, captures, frame);
             }
             go(ITEM, program.firstItem[row]);
         }
@@ -800,38 +799,30 @@ public final class PatternBench {
                 return;
             }
             if (program.manner[item] == Program.POSSESSIVE) {
-                enclose(Frames.HELD, item, choices.used);
+                frame = frames.add(Frames.HELD, item, choices.used, place, captures, frame);
             }
             if (repeat == Program.MAYBE || repeat == Program.STAR) {
                 fork(item);
                 return;
             }
             if (repeat == Program.PLUS) {
-                enclose(Frames.PLUS_TURN, item, 0);
+                frame = frames.add(Frames.PLUS_TURN, item, 0, place, captures, frame);
             } else if (repeat == Program.TIMES) {
-                enclose(Frames.TIMES_TURN, item, program.times[item]);
+                frame = frames.add(Frames.TIMES_TURN, item, program.times[item], place, captures, frame);
             }
             go(ASK, item);
-        }
-
-        private void leaveChoice(int itsTask, int itsNumber) {
-            choices.add(itsTask, itsNumber, place, captures, frame);
-        }
-
-        private void enclose(int kind, int item, int mark) {
-            frame = frames.add(kind, item, mark, place, captures, frame);
         }
 
         /** Between one more turn of the atom and none. */
         private void fork(int item) {
             boolean isLazy = program.manner[item] == Program.LAZY;
-            leaveChoice(isLazy ? TRY : DONE, item);
+            choices.add(isLazy ? TRY : DONE, item, place, captures, frame);
             go(isLazy ? DONE : TRY, item);
         }
 
         private void tryAtom(int item) {
             if (program.repeat[item] != Program.MAYBE) {
-                enclose(Frames.STAR_TURN, item, 0);
+                frame = frames.add(Frames.STAR_TURN, item, 0, place, captures, frame);
             }
             go(ASK, item);
         }
@@ -932,16 +923,16 @@ public final class PatternBench {
                 task = FAIL;
                 return;
             }
-            enclose(Frames.CALLED, item, 0);
+            frame = frames.add(Frames.CALLED, item, 0, place, captures, frame);
             go(ROW, program.groupBody[program.value[item]]);
         }
 
         private void askBody(int item) {
             int open = choices.used;
             if (program.kind[item] == Program.NOT_AHEAD) {
-                leaveChoice(AFTER, item);
+                choices.add(AFTER, item, place, captures, frame);
             }
-            enclose(Frames.BODY, item, open);
+            frame = frames.add(Frames.BODY, item, open, place, captures, frame);
             go(ROW, program.body[item]);
         }
 
@@ -958,7 +949,11 @@ public final class PatternBench {
                     go(AFTER, item);
                     break;
                 case Frames.STAR_TURN:
-                    leaveStarTurn(ended, item);
+                    if (place == frames.place[ended]) {
+                        go(DONE, item);
+                    } else {
+                        fork(item);
+                    }
                     break;
                 case Frames.PLUS_TURN:
                     fork(item);
@@ -976,20 +971,12 @@ public final class PatternBench {
             }
         }
 
-        private void leaveStarTurn(int ended, int item) {
-            if (place == frames.place[ended]) {
-                go(DONE, item);
-            } else {
-                fork(item);
-            }
-        }
-
         private void leaveTimesTurn(int ended, int item) {
             int left = frames.mark[ended] - 1;
             if (left <= 0) {
                 go(DONE, item);
             } else {
-                enclose(Frames.TIMES_TURN, item, left);
+                frame = frames.add(Frames.TIMES_TURN, item, left, place, captures, frame);
                 go(ASK, item);
             }
         }
