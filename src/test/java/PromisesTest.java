@@ -142,6 +142,10 @@ public final class PromisesTest {
         good("(a)\\1*(?1)+(?0)?", 1, 13);
         good("\\1(a)", 1, 4);
         good("(?4)()()()()", 4, 9);
+        good("\\4()()()()", 4, 9);
+        good("[abcdefghijklmnopqrstuvwxyzabcd]", 0, 1);
+        good("|".repeat(32), 0, 32);
+        good("(?:|)".repeat(6), 0, 18);
         good("(?2)\\2((a)(?1))", 2, 8);
     }
 
@@ -174,7 +178,7 @@ public final class PromisesTest {
             "(*a)", "(|*)", "a|*", "(?", "(?)", "(?a)", "(?-)", "(??)", "(?:", "(?:a", "(?=a", "(?|a)", "(?1", "(?12)", "(?0",
             "(?5)", "(?9)", "(?1)", "(?2)(a)", "(?4)()()()", "()(?1(", "\\", "\\0", "\\5", "\\9", "\\a", "\\1", "(a)\\2", "\\(",
             "[", "[]", "[^", "[^]", "[a", "[a-", "[a-]", "[-a]", "[b-a]", "[a-b-c]", "[^^a]", "[a^]", "[.]", "[a|b]", "[1]",
-            "[a-9]", "[a]]", "[z-a]", "()()()()()", "(((((a)))))", "(?:(?:(?:(?:(?:(?:(?:)))))))", "(?>(?=(?!(?:(((a)))))))",
+            "[a-9]", "[a]]", "[z-a]", "[ab-a]", "[ab-a", "[b-ac]", "a{2)", "(a{2)", "()()()()()", "(((((a)))))", "(?:(?:(?:(?:(?:(?:(?:)))))))", "(?>(?=(?!(?:(((a)))))))",
         };
         for (String pattern : all) {
             PatternBench x = new PatternBench(20);
@@ -185,7 +189,24 @@ public final class PromisesTest {
         }
     }
 
+    private static void oneBehindTheOther() {
+        PatternBench x = new PatternBench(300);
+        feed(x, "aab");
+        for (int k = 0; k < 5; k++) {
+            due("3: many on one object", compile(x, "(a*+|" + "b".repeat(20) + ")b??"), 1);
+            due("3: many on one object", x.search(0), 0);
+            due("3: many on one object", x.end(0), 2);
+            due("3: many on one object", compile(x, "||a" + "|a".repeat(14)), 0);
+            due("3: many on one object", x.matches(), 4);
+            due("3: many on one object", compile(x, "a".repeat(32)), 0);
+            due("3: many on one object", x.search(0), NONE);
+            due("3: many on one object", compile(x, "aab" + "c{0}".repeat(7)), 0);
+            due("3: many on one object", x.search(0), 0);
+        }
+    }
+
     private static void compiling() {
+        oneBehindTheOther();
         goodPatterns();
         sizesAtTheEdge();
         wrongPatterns();
@@ -259,6 +280,8 @@ public final class PromisesTest {
         finds("(a|b\\1)+", "aba", 0, 3, 9, 1, 3);
         finds("(ab)\\1", "abaabab", 3, 7, 13, 3, 5);
         findsNone("(ab)\\1", "aba", 11);
+        findsNone("(ab)\\1", "abcb", 12);
+        finds("c|(a)b", "ac", 1, 2, 5);
         finds("(?:(a)|b)*", "ab", 0, 2, 11, 0, 1);
     }
 
@@ -312,6 +335,7 @@ public final class PromisesTest {
         finds("^(?1)ab(a*){0}", "aaab", 0, 4, 9);
         findsNone("(?0)", "", 13);
         finds("((a)|b(?1)\\2)", "ba", 1, 2, 12, 1, 2, 1, 2);
+        finds("((a)|b(?1)\\2)", "baa", 1, 2, 12, 1, 2, 1, 2);
         finds("(?:(?1)|(a))", "a", 0, 1, 3);
         finds("(?=(?1))(a|b)\\1", "bb", 0, 2, 8, 0, 1);
     }
@@ -334,6 +358,9 @@ public final class PromisesTest {
         due("6: from the length", x.search(3), NONE);
         due("6: NONE ends the match", x.start(0), UNSET);
         due("6: no match to go on from", x.again(), NONE);
+        PatternBench z = bench(300, "(?:a|b)c?", "ab");
+        due("6: a match that leaves choices", z.search(0), 0);
+        due("6: they are no longer there", z.search(2), NONE);
         PatternBench y = bench(20, "(a*)*b", "aaaaaaaab");
         due("6: a match at first", y.search(8), 8);
         due("6: STOPPED", compile(y, "(a*)*c") == 1 ? y.search(0) : 0, STOPPED);
