@@ -193,17 +193,27 @@ public final class ModelTest {
         return !differs;
     }
 
-    public static void main(String[] args) {
-        int runs = args.length > 0 ? Integer.parseInt(args[0]) : 6000;
-        long first = args.length > 1 ? Long.parseLong(args[1]) : 1;
+    private static int differing(int runs, long first) {
         int wrong = 0;
         for (int k = 0; k < runs && wrong < 3; k++) {
             if (!new ModelTest(first + k).run()) {
                 wrong++;
             }
         }
-        System.out.println(wrong == 0 ? runs + " runs answered as the model" : "runs differ from the model");
-        if (wrong != 0) {
+        return wrong;
+    }
+
+    public static void main(String[] args) throws InterruptedException {
+        int runs = args.length > 0 ? Integer.parseInt(args[0]) : 6000;
+        long first = args.length > 1 ? Long.parseLong(args[1]) : 1;
+        // A run that does not come to its end counts as one that differs.
+        int[] wrong = {1};
+        // The model goes deeper with each step of a search than the stack of a common thread allows.
+        Thread deep = new Thread(null, () -> wrong[0] = differing(runs, first), "model", 1L << 29);
+        deep.start();
+        deep.join();
+        System.out.println(wrong[0] == 0 ? runs + " runs answered as the model" : "runs differ from the model");
+        if (wrong[0] != 0) {
             System.exit(1);
         }
     }
