@@ -158,6 +158,8 @@ public final class PatternEdgesTest extends Asking {
 
     private static void rangeOfAClass() {
         isWrong("[-]", "[-a]", "[a-", "[a-]", "[a-b", "[a-b-]", "[a-b-c]", "[a--b]", "[a-^]", "[^-a]", "[ab-a]", "[b-ac]");
+        // These stand behind 'z', and are no letters.
+        isWrong("[a-{]", "[z-{]", "[a-|]", "[a-}]", "[^a-{]", "[{]", "[|-}]", "[a{]");
         for (char low = 'a'; low <= 'z'; low++) {
             for (char high = 'a'; high <= 'z'; high++) {
                 String range = low + "-" + high + "]";

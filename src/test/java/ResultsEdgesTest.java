@@ -95,6 +95,7 @@ public final class ResultsEdgesTest extends Asking {
         finds(".", "z", 0, 1, 1);
         finds("[b-y]", "azb", 2, 3, 3);
         finds("[^b-y]", "bycz", 3, 4, 4);
+        finds("[^b-y]", "bya", 2, 3, 3);
         findsNone("[^a-z]", "amz", 4);
         finds("[az]", "bz", 1, 2, 2);
         finds("[^az]", "azm", 2, 3, 3);
@@ -151,6 +152,11 @@ public final class ResultsEdgesTest extends Asking {
         findsNone("^(a{9}a{9}aa)\\1", a(39), 62);
         finds("(ab)\\1", "abab", 0, 4, 4, 0, 2);
         findsNone("(ab)\\1", "aba", 11);
+        PatternBench x = bench(300, "(ab)\\1", "abab");
+        x.clear();
+        feed(x, "aba");
+        due("the last letter of the subject before is gone", x.search(0), NONE);
+        due("steps", x.steps(), 11);
     }
 
     private static void referenceToOtherLetters() {
