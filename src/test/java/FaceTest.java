@@ -6,13 +6,18 @@ import java.lang.reflect.Modifier;
 import java.nio.file.Files;
 import java.nio.file.Path;
 import java.util.Arrays;
+import java.util.Set;
 import java.util.TreeSet;
 
 /**
  * The face of the document and what of LANGUAGE.md a program can look at: the members, the words
- * that may not stand in the source, and that no call makes objects.
+ * that may not stand in the source, the length of methods, and that no call makes objects.
  */
 public final class FaceTest {
+    private static final int MOST_LINES = 60;
+    private static final Set<Class<?>> CONSTANTS = Set.of(int.class, long.class, boolean.class, char.class, String.class,
+        int[].class, long[].class, char[].class, byte[].class);
+
     private static int wrong = 0;
 
     private static void must(boolean holds, String what) {
@@ -40,22 +45,34 @@ public final class FaceTest {
         must(face.getDeclaredClasses().length <= 12, "at most twelve classes");
         for (Class<?> inside : face.getDeclaredClasses()) {
             must(Modifier.isStatic(inside.getModifiers()), inside + " is static");
-            staticFields(inside);
+            must(!Modifier.isPublic(inside.getModifiers()), inside + " is private or package-visible");
+            must(inside.getDeclaredClasses().length == 0, inside + " has no classes inside");
+            insides(inside);
         }
-        staticFields(face);
+        insides(face);
     }
 
-    private static void staticFields(Class<?> owner) {
+    private static boolean isNameOfTheFace(String name) {
+        return Arrays.stream(PatternBench.class.getMethods())
+            .anyMatch(method -> method.getDeclaringClass() == PatternBench.class && method.getName().equals(name));
+    }
+
+    private static void insides(Class<?> owner) {
+        int held = 0;
         for (Field field : owner.getDeclaredFields()) {
             boolean isStatic = Modifier.isStatic(field.getModifiers());
             must(!isStatic || Modifier.isFinal(field.getModifiers()), field + " is final");
+            must(!isStatic || CONSTANTS.contains(field.getType()), field + " is a constant");
+            held += isStatic ? 0 : 1;
             if (owner == PatternBench.class && !Modifier.isPrivate(field.getModifiers())) {
                 must("REFUSED FULL WRONG NONE STOPPED UNSET ".contains(field.getName() + " ") && isStatic
                     && field.getType() == int.class, field + " is of the document");
             }
         }
+        must(held <= 20, owner + " has at most twenty fields");
         for (Method method : owner.getDeclaredMethods()) {
             must(method.getParameterCount() <= 7, method + " has at most seven parameters");
+            must(Modifier.isPublic(method.getModifiers()) || !isNameOfTheFace(method.getName()), method + " has a name of its own");
         }
         for (Constructor<?> constructor : owner.getDeclaredConstructors()) {
             must(constructor.getParameterCount() <= 7, constructor + " has at most seven parameters");
@@ -73,6 +90,25 @@ public final class FaceTest {
         for (int code : text.chars().toArray()) {
             must(code < 128, "the source is plain");
         }
+        methodsAreShort(text.split("\n"));
+    }
+
+    /** What opens with a bracket at a method's indent closes at the same indent: a method, or a part of one. */
+    private static void methodsAreShort(String[] lines) {
+        int seen = 0;
+        for (int first = 0; first < lines.length; first++) {
+            if (!lines[first].matches(" {4}( {4})?\\S.*\\) \\{")) {
+                continue;
+            }
+            String closing = lines[first].replaceAll("\\S.*", "}");
+            int last = first;
+            while (last < lines.length && !lines[last].equals(closing)) {
+                last++;
+            }
+            seen++;
+            must(last - first < MOST_LINES, "a method of at most sixty lines: " + lines[first].trim());
+        }
+        must(seen > 50, "the methods are seen: " + seen);
     }
 
     private static long allocated() {
